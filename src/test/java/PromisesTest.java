@@ -347,6 +347,8 @@ public final class PromisesTest {
         Check.is("7: before it", 1, x.withdraw(2, 0));
         Check.is("7: the same", 0, x.withdraw(2, 0));
         Check.is("7: refused ones changed nothing", 0, x.withdraw(2, 1));
+        x.publish(0);
+        Check.badState("7: a published start in 0", () -> x.withdraw(2, 0));
     }
 
     private static void ordinal() {
@@ -365,6 +367,14 @@ public final class PromisesTest {
                 Check.is("8: another judge", NONE, x.ordinal(s, 0, k));
             }
         }
+        x.mark(1, 1, 3, 60, 1);
+        x.mark(1, 1, 1, 0, 60);
+        Check.is("8: the sum goes before the second, 61", 1, x.ordinal(1, 1, 3));
+        Check.is("8: the sum goes before the second, 60", 2, x.ordinal(1, 1, 1));
+        x.mark(0, 1, 3, 1, 60);
+        x.mark(0, 1, 1, 60, 0);
+        Check.is("8: the sum goes before the first, 61", 1, x.ordinal(0, 1, 3));
+        Check.is("8: the sum goes before the first, 60", 2, x.ordinal(0, 1, 1));
         for (int wrong : NO_INDEX) {
             Check.outOfBounds("8: segment " + wrong, () -> x.ordinal(wrong, 0, 0));
             Check.outOfBounds("8: judge " + wrong, () -> x.ordinal(0, wrong, 0));
@@ -504,6 +514,7 @@ public final class PromisesTest {
         middle.mark(1, 2, 0, 60, 60);
         Check.is("11: in place of the one that there is", 40, middle.needed(1, 0, 1));
         Check.is("11: nothing is better than 60 60", NONE, middle.needed(1, 1, 1));
+        Check.is("11: SHORT, 60 59 is better than 59 60", 119, undecided(59, 60).needed(0, 0, 1));
         OrdinalRink lowest = undecided(0, 0);
         Check.is("11: more than 0 0", 1, lowest.needed(2, 0, 1));
         for (int wrong : new int[] {0, 11, -1, Integer.MAX_VALUE, Integer.MIN_VALUE}) {
@@ -766,6 +777,11 @@ public final class PromisesTest {
     }
 
     private static void checkFaults() {
+        OrdinalRink most = rink(10, 9);
+        int[] row = {1, 1, 1, 1, 1, 1, 1, 1, 1, 1};
+        give(most, 2, row, row, row, row, row, row, row, row, row);
+        Check.is("17: skater 9 of ten", 1, checked(most, 2, "9 1 9 9 9 11"));
+        Check.is("17: there is no skater 10", 0, checked(most, 2, "10 1 9 9 9 11"));
         OrdinalRink x = new OrdinalRink();
         Object[][] lines = {
             {"", 0}, {" ", 0}, {" 1 2 3 4 5 6", 0}, {"x", 0}, {"-1 2 3 4 5 6", 0}, {"+", 0},
