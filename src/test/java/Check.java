@@ -1,8 +1,19 @@
 /** Counts and tells wrong answers; a test ends with end(). */
 final class Check {
     private static int wrong = 0;
+    private static String sentence = "";
 
     private Check() {
+    }
+
+    /** The document's words that the checks from here on are about. */
+    static void sentence(String words) {
+        sentence = "'" + words + "': ";
+    }
+
+    /** The nearest and the farthest numbers that are less than the least or more than the most. */
+    static int[] beside(int least, int most) {
+        return new int[] {least - 1, most + 1, Integer.MIN_VALUE, Integer.MAX_VALUE};
     }
 
     static void is(String what, long due, long got) {
@@ -14,6 +25,14 @@ final class Check {
     static void is(String what, String due, String got) {
         if (!due.equals(got)) {
             tell(what + " answered " + got + ", due is " + due);
+        }
+    }
+
+    static void takes(String what, Runnable call) {
+        try {
+            call.run();
+        } catch (RuntimeException e) {
+            tell(what + " threw " + e + ", due is nothing");
         }
     }
 
@@ -36,7 +55,7 @@ final class Check {
         }
     }
 
-    private static void throwsJust(String what, Class<?> due, Runnable call) {
+    static void throwsJust(String what, Class<?> due, Runnable call) {
         Class<?> got = null;
         try {
             call.run();
@@ -51,6 +70,6 @@ final class Check {
 
     private static void tell(String line) {
         wrong++;
-        System.out.println(line);
+        System.out.println(sentence + line);
     }
 }

@@ -40,46 +40,6 @@ public final class PromisesTest {
         Check.end();
     }
 
-    private static OrdinalRink rink(int skaters, int judges) {
-        OrdinalRink x = new OrdinalRink();
-        x.event(skaters, judges);
-        return x;
-    }
-
-    /** Marks that give these ordinals, a row a judge. */
-    private static void give(OrdinalRink x, int segment, int[]... rows) {
-        for (int judge = 0; judge < rows.length; judge++) {
-            for (int skater = 0; skater < rows[judge].length; skater++) {
-                x.mark(segment, judge, skater, 50 - rows[judge][skater], 30);
-            }
-        }
-    }
-
-    /** Two skaters, three judges: all judges have the winner before the other one. */
-    private static void win(OrdinalRink x, int segment, int winner) {
-        int[] row = {winner == 0 ? 1 : 2, winner == 0 ? 2 : 1};
-        give(x, segment, row, row, row);
-    }
-
-    private static void typeAll(OrdinalRink x, String line) {
-        for (char c : line.toCharArray()) {
-            Check.is("type " + c, 1, x.type(c) ? 1 : 0);
-        }
-    }
-
-    private static int checked(OrdinalRink x, int segment, String line) {
-        typeAll(x, line);
-        return x.check(segment);
-    }
-
-    private static String pageOf(OrdinalRink x) {
-        StringBuilder page = new StringBuilder();
-        for (int p = 0; p < x.length(); p++) {
-            page.append(x.charAt(p));
-        }
-        return page.toString();
-    }
-
     private static void newObject() {
         OrdinalRink x = new OrdinalRink();
         Check.is("1: length", 0, x.length());
@@ -126,7 +86,7 @@ public final class PromisesTest {
             Check.outOfBounds("2: skater behind the last", () -> x.total(sizes[0]));
             Check.outOfBounds("2: judge behind the last", () -> x.ordinal(0, sizes[1], 0));
         }
-        win(x, 0, 1);
+        Rinks.win(x, 0, 1);
         int[][] wrong = {{1, 3}, {11, 3}, {2, 2}, {2, 10}, {0, 0}, {-1, 5}, {5, -1},
             {Integer.MAX_VALUE, 5}, {5, Integer.MIN_VALUE}};
         for (int[] sizes : wrong) {
@@ -140,10 +100,10 @@ public final class PromisesTest {
     }
 
     private static void eventForgetsAll() {
-        OrdinalRink x = rink(4, 4);
+        OrdinalRink x = Rinks.rink(4, 4);
         for (int s = 0; s < 3; s++) {
             x.segment(s, s == 0 ? FREE : SHORT, 17);
-            give(x, s, FOUR[0], FOUR[1], FOUR[2]);
+            Rinks.give(x, s, FOUR[0], FOUR[1], FOUR[2]);
             x.deduct(s, 1, 0, 7);
             x.deduct(s, 1, 1, 9);
             x.strike(s, 3, true);
@@ -153,7 +113,7 @@ public final class PromisesTest {
         x.publish(0);
         x.publish(2);
         int length = x.proof(0, 2);
-        typeAll(x, "1 2 ");
+        Rinks.typeAll(x, "1 2 ");
         x.event(2, 4);
         Check.is("2: the page stays", length, x.length());
         Check.is("2: the text stays", -5, x.check(0));
@@ -196,14 +156,14 @@ public final class PromisesTest {
         Check.badArgument("3: argument before state", () -> x.segment(1, FREE, 21));
         Check.badArgument("3: argument before state", () -> x.segment(1, 2, 1));
         Check.is("3: still factor 1", 2, x.total(0));
-        win(x, 2, 1);
+        Rinks.win(x, 2, 1);
         x.segment(2, FREE, 20);
         x.publish(2);
         Check.is("3: factor 20", 2 + 20 * 4, x.total(0));
     }
 
     private static void mark() {
-        OrdinalRink x = rink(2, 3);
+        OrdinalRink x = Rinks.rink(2, 3);
         x.mark(2, 1, 0, 0, 0);
         Check.is("4: not all marked", NONE, x.ordinal(2, 1, 0));
         x.mark(2, 1, 1, 60, 60);
@@ -223,7 +183,7 @@ public final class PromisesTest {
         Check.outOfBounds("4: judge 3", () -> x.mark(0, 3, 0, 0, 0));
         Check.outOfBounds("4: skater 2", () -> x.mark(0, 0, 2, 0, 0));
         Check.is("4: refused marks change nothing", 1, x.ordinal(2, 1, 0));
-        win(x, 0, 0);
+        Rinks.win(x, 0, 0);
         x.publish(0);
         Check.badState("4: published", () -> x.mark(0, 0, 0, 1, 1));
         Check.badArgument("4: argument before state", () -> x.mark(0, 0, 0, 1, 61));
@@ -238,7 +198,7 @@ public final class PromisesTest {
     }
 
     private static void deduct() {
-        OrdinalRink x = rink(2, 3);
+        OrdinalRink x = Rinks.rink(2, 3);
         for (int judge = 0; judge < 3; judge++) {
             x.mark(1, judge, 0, 10, 40);
             x.mark(1, judge, 1, 30, 15);
@@ -271,14 +231,14 @@ public final class PromisesTest {
     }
 
     private static void strike() {
-        OrdinalRink x = rink(2, 5);
+        OrdinalRink x = Rinks.rink(2, 5);
         Check.is("6: one struck", 4, x.strike(1, 4, true));
         Check.is("6: struck already", 4, x.strike(1, 4, true));
         Check.is("6: two struck", 3, x.strike(1, 0, true));
         Check.badState("6: fewer than 3", () -> x.strike(1, 1, true));
         Check.is("6: struck already, 3 are left", 3, x.strike(1, 4, true));
         Check.is("6: another segment", 5, x.strike(2, 1, false));
-        give(x, 1, new int[0], new int[] {1, 2}, new int[] {1, 2}, new int[] {2, 1});
+        Rinks.give(x, 1, new int[0], new int[] {1, 2}, new int[] {1, 2}, new int[] {2, 1});
         Check.is("6: the panel alone", 2, x.placing(1, 0, 1));
         Check.is("6: the panel alone, ALL", 4, x.placing(1, 0, 3));
         Check.is("6: back in it", 4, x.strike(1, 0, false));
@@ -303,9 +263,9 @@ public final class PromisesTest {
     }
 
     private static void withdraw() {
-        OrdinalRink x = rink(3, 3);
+        OrdinalRink x = Rinks.rink(3, 3);
         for (int s = 0; s < 3; s++) {
-            give(x, s, new int[] {1, 2, 3}, new int[] {1, 2, 3}, new int[] {1, 2, 3});
+            Rinks.give(x, s, new int[] {1, 2, 3}, new int[] {1, 2, 3}, new int[] {1, 2, 3});
         }
         int[] told = {2, 1, 0, 0, 3, 1, 3};
         int before = 3;
@@ -330,9 +290,9 @@ public final class PromisesTest {
     }
 
     private static void withdrawAndPublished() {
-        OrdinalRink x = rink(3, 3);
+        OrdinalRink x = Rinks.rink(3, 3);
         for (int s = 0; s < 3; s++) {
-            give(x, s, new int[] {1, 2, 3}, new int[] {1, 2, 3}, new int[] {1, 2, 3});
+            Rinks.give(x, s, new int[] {1, 2, 3}, new int[] {1, 2, 3}, new int[] {1, 2, 3});
         }
         x.withdraw(2, 1);
         x.publish(1);
@@ -352,7 +312,7 @@ public final class PromisesTest {
     }
 
     private static void ordinal() {
-        OrdinalRink x = rink(5, 3);
+        OrdinalRink x = Rinks.rink(5, 3);
         int[][] marks = {{30, 30}, {20, 40}, {40, 20}, {31, 30}, {30, 30}};
         for (int s = 0; s < 2; s++) {
             for (int k = 0; k < 5; k++) {
@@ -386,7 +346,7 @@ public final class PromisesTest {
     }
 
     private static void ordinalOfStarters() {
-        OrdinalRink x = rink(3, 4);
+        OrdinalRink x = Rinks.rink(3, 4);
         x.mark(1, 3, 0, 9, 9);
         x.mark(1, 3, 1, 8, 8);
         x.strike(1, 3, true);
@@ -405,8 +365,8 @@ public final class PromisesTest {
     }
 
     private static void placing() {
-        OrdinalRink x = rink(4, 3);
-        give(x, 1, FOUR);
+        OrdinalRink x = Rinks.rink(4, 3);
+        Rinks.give(x, 1, FOUR);
         int[][] due = {{2, 2, 3, 6, 2}, {2, 2, 3, 7, 4}, {3, 3, 7, 7, 6}, {4, 3, 10, 10, 8}};
         for (int k = 0; k < 4; k++) {
             for (int what = 0; what < 5; what++) {
@@ -432,14 +392,14 @@ public final class PromisesTest {
     }
 
     private static void placingEdges() {
-        OrdinalRink x = rink(3, 4);
+        OrdinalRink x = Rinks.rink(3, 4);
         int[] equal = {1, 1, 1};
-        give(x, 0, equal, equal, equal, equal);
+        Rinks.give(x, 0, equal, equal, equal, equal);
         for (int k = 0; k < 3; k++) {
             Check.is("9: three are tied", 4, x.placing(0, k, 4));
             Check.is("9: all have 1", 4, x.placing(0, k, 2));
         }
-        give(x, 0, new int[] {1, 2, 3}, new int[] {1, 2, 3}, new int[] {2, 1, 3}, new int[] {2, 1, 3});
+        Rinks.give(x, 0, new int[] {1, 2, 3}, new int[] {1, 2, 3}, new int[] {2, 1, 3}, new int[] {2, 1, 3});
         Check.is("9: half is not more than half", 2, x.placing(0, 0, 0));
         Check.is("9: COUNT", 4, x.placing(0, 0, 1));
         Check.is("9: two are tied for the first", 3, x.placing(0, 0, 4));
@@ -451,30 +411,30 @@ public final class PromisesTest {
         Check.is("9: its MAJORITY", 1, x.placing(0, 0, 0));
         x.withdraw(0, 0);
         Check.is("9: no starters", NONE, x.placing(0, 0, 4));
-        OrdinalRink most = rink(10, 9);
+        OrdinalRink most = Rinks.rink(10, 9);
         int[] row = {1, 2, 3, 4, 5, 6, 7, 8, 9, 10};
-        give(most, 2, row, row, row, row, row, row, row, row, row);
+        Rinks.give(most, 2, row, row, row, row, row, row, row, row, row);
         Check.is("9: the tenth's place", 20, most.placing(2, 9, 4));
         Check.is("9: the tenth's ALL", 90, most.placing(2, 9, 3));
     }
 
     private static void step() {
-        OrdinalRink x = rink(4, 3);
+        OrdinalRink x = Rinks.rink(4, 3);
         Check.is("10: not complete", NONE, x.step(1, 0, 1));
-        give(x, 1, FOUR);
+        Rinks.give(x, 1, FOUR);
         Check.is("10: ALL", 4, x.step(1, 0, 1));
         Check.is("10: ALL, the other way", 4, x.step(1, 1, 0));
         Check.is("10: MAJORITY", 1, x.step(1, 3, 2));
         Check.is("10: the same one", 0, x.step(1, 2, 2));
-        give(x, 0, new int[] {1, 2, 3, 4}, new int[] {2, 3, 1, 4}, new int[] {4, 2, 1, 3});
+        Rinks.give(x, 0, new int[] {1, 2, 3, 4}, new int[] {2, 3, 1, 4}, new int[] {4, 2, 1, 3});
         Check.is("10: SUM", 3, x.step(0, 0, 1));
         Check.is("10: the lesser SUM", 4, x.placing(0, 0, 4));
         Check.is("10: the greater SUM", 6, x.placing(0, 1, 4));
-        give(x, 2, new int[] {1, 2, 3, 4}, new int[] {2, 1, 4, 3}, new int[] {2, 3, 1, 4});
+        Rinks.give(x, 2, new int[] {1, 2, 3, 4}, new int[] {2, 1, 4, 3}, new int[] {2, 3, 1, 4});
         Check.is("10: COUNT", 2, x.step(2, 1, 0));
         Check.is("10: the greater COUNT", 2, x.placing(2, 0, 4));
         Check.is("10: the lesser COUNT", 4, x.placing(2, 1, 4));
-        give(x, 2, new int[] {1, 1, 3, 4}, new int[] {1, 1, 3, 4}, new int[] {1, 1, 3, 4});
+        Rinks.give(x, 2, new int[] {1, 1, 3, 4}, new int[] {1, 1, 3, 4}, new int[] {1, 1, 3, 4});
         Check.is("10: tied", 0, x.step(2, 0, 1));
         x.withdraw(1, 2);
         Check.is("10: the other does not start", NONE, x.step(2, 0, 1));
@@ -560,8 +520,8 @@ public final class PromisesTest {
     }
 
     private static void neededNone() {
-        OrdinalRink x = rink(3, 4);
-        give(x, 1, new int[] {1, 2, 3}, new int[] {2, 1, 3}, new int[] {2, 1}, new int[] {1, 2, 3});
+        OrdinalRink x = Rinks.rink(3, 4);
+        Rinks.give(x, 1, new int[] {1, 2, 3}, new int[] {2, 1, 3}, new int[] {2, 1}, new int[] {1, 2, 3});
         Check.is("11: judge 2 has not marked skater 2", NONE, x.needed(1, 0, 3));
         Check.is("11: judge 2 is not the last one", NONE, x.needed(1, 2, 3));
         x.strike(1, 3, true);
@@ -577,9 +537,9 @@ public final class PromisesTest {
     }
 
     private static void publish() {
-        OrdinalRink x = rink(3, 4);
+        OrdinalRink x = Rinks.rink(3, 4);
         int[] row = {1, 2, 3};
-        give(x, 2, row, row, row);
+        Rinks.give(x, 2, row, row, row);
         Check.badState("12: judge 3 has none", () -> x.publish(2));
         Check.is("12: a refused one changes nothing", NONE, x.rank(0));
         x.strike(2, 3, true);
@@ -587,13 +547,13 @@ public final class PromisesTest {
         Check.is("12: the starters", 2, x.publish(2));
         Check.is("12: published", 20, x.total(0));
         Check.badState("12: it is published", () -> x.publish(2));
-        give(x, 1, row, row, row, row);
+        Rinks.give(x, 1, row, row, row, row);
         Check.badState("12: not complete", () -> x.publish(0));
         Check.is("12: all start in 1", 3, x.publish(1));
     }
 
     private static void publishedIsClosed() {
-        OrdinalRink x = rink(2, 3);
+        OrdinalRink x = Rinks.rink(2, 3);
         x.withdraw(0, 1);
         x.withdraw(1, 1);
         Check.badState("12: no starters", () -> x.publish(1));
@@ -607,15 +567,15 @@ public final class PromisesTest {
         }
         Check.outOfBounds("12: segment 3", () -> x.publish(3));
         x.event(2, 3);
-        win(x, 1, 0);
+        Rinks.win(x, 1, 0);
         Check.is("12: open in a new event", 2, x.publish(1));
     }
 
     private static void total() {
-        OrdinalRink x = rink(3, 3);
+        OrdinalRink x = Rinks.rink(3, 3);
         int[] row = {1, 1, 3};
         for (int s = 0; s < 3; s++) {
-            give(x, s, row, row, row);
+            Rinks.give(x, s, row, row, row);
         }
         Check.is("13: nothing published", 0, x.total(0));
         x.publish(0);
@@ -634,10 +594,10 @@ public final class PromisesTest {
     }
 
     private static void rank() {
-        OrdinalRink x = rink(4, 3);
+        OrdinalRink x = Rinks.rink(4, 3);
         int[] row = {2, 2, 1, 4};
         for (int s = 0; s < 3; s++) {
-            give(x, s, row, row, row);
+            Rinks.give(x, s, row, row, row);
         }
         Check.is("14: nothing published", NONE, x.rank(0));
         x.withdraw(3, 0);
@@ -664,8 +624,8 @@ public final class PromisesTest {
             OrdinalRink x = new OrdinalRink();
             x.segment(1, kinds % 2, 10);
             x.segment(2, kinds / 2, 10);
-            win(x, 1, 0);
-            win(x, 2, 1);
+            Rinks.win(x, 1, 0);
+            Rinks.win(x, 2, 1);
             x.publish(2);
             Check.is("14: before the other is published", 2, x.rank(0));
             x.publish(1);
@@ -680,8 +640,8 @@ public final class PromisesTest {
         for (int judge = 0; judge < 3; judge++) {
             x.mark(2, judge, 2, 1, 1);
         }
-        give(x, 0, new int[] {1, 2, 3}, new int[] {1, 2, 3}, new int[] {1, 2, 3});
-        give(x, 1, new int[] {2, 1, 3}, new int[] {2, 1, 3}, new int[] {2, 1, 3});
+        Rinks.give(x, 0, new int[] {1, 2, 3}, new int[] {1, 2, 3}, new int[] {1, 2, 3});
+        Rinks.give(x, 1, new int[] {2, 1, 3}, new int[] {2, 1, 3}, new int[] {2, 1, 3});
         x.segment(1, SHORT, 10);
         x.withdraw(0, 2);
         x.withdraw(1, 2);
@@ -695,14 +655,14 @@ public final class PromisesTest {
     }
 
     private static void proof() {
-        OrdinalRink x = rink(4, 3);
-        give(x, 1, FOUR);
+        OrdinalRink x = Rinks.rink(4, 3);
+        Rinks.give(x, 1, FOUR);
         Check.is("15: how many", 11, x.proof(1, 0));
-        Check.is("15: the page", "0 2 2 3 6 2", pageOf(x));
+        Check.is("15: the page", "0 2 2 3 6 2", Rinks.pageOf(x));
         Check.is("15: how many", 13, x.proof(1, 3));
-        Check.is("15: in place of that", "3 4 3 10 10 8", pageOf(x));
+        Check.is("15: in place of that", "3 4 3 10 10 8", Rinks.pageOf(x));
         x.proof(1, 1);
-        Check.is("15: a shorter one", "1 2 2 3 7 4", pageOf(x));
+        Check.is("15: a shorter one", "1 2 2 3 7 4", Rinks.pageOf(x));
         Check.badState("15: not complete", () -> x.proof(2, 1));
         x.withdraw(0, 1);
         Check.badState("15: does not start", () -> x.proof(1, 0));
@@ -712,13 +672,13 @@ public final class PromisesTest {
         }
         Check.outOfBounds("15: segment 3", () -> x.proof(3, 0));
         Check.outOfBounds("15: skater 4", () -> x.proof(0, 4));
-        Check.is("15: a refused one changes nothing", "1 2 2 3 7 4", pageOf(x));
-        OrdinalRink most = rink(10, 9);
+        Check.is("15: a refused one changes nothing", "1 2 2 3 7 4", Rinks.pageOf(x));
+        OrdinalRink most = Rinks.rink(10, 9);
         int[] row = {1, 2, 3, 4, 5, 6, 7, 8, 9, 10};
-        give(most, 2, row, row, row, row, row, row, row, row, row);
+        Rinks.give(most, 2, row, row, row, row, row, row, row, row, row);
         most.publish(2);
         Check.is("15: the longest", 15, most.proof(2, 9));
-        Check.is("15: the longest", "9 10 9 90 90 20", pageOf(most));
+        Check.is("15: the longest", "9 10 9 90 90 20", Rinks.pageOf(most));
     }
 
     private static void type() {
@@ -743,45 +703,45 @@ public final class PromisesTest {
     }
 
     private static void check() {
-        OrdinalRink x = rink(4, 3);
-        give(x, 1, FOUR);
+        OrdinalRink x = Rinks.rink(4, 3);
+        Rinks.give(x, 1, FOUR);
         String[] proofs = {"0 2 2 3 6 2", "1 2 2 3 7 4", "2 3 3 7 7 6", "3 4 3 10 10 8"};
         for (String proof : proofs) {
-            Check.is("17: " + proof, 1, checked(x, 1, proof));
+            Check.is("17: " + proof, 1, Rinks.checked(x, 1, proof));
             Check.is("17: the text is empty then", -1, x.check(1));
-            Check.is("17: in a segment that is not complete", 0, checked(x, 2, proof));
+            Check.is("17: in a segment that is not complete", 0, Rinks.checked(x, 2, proof));
         }
         String[] wrong = {"1 2 2 3 6 2", "0 3 2 3 6 2", "0 2 3 3 6 2", "0 2 2 4 6 2", "0 2 2 3 7 2",
             "0 2 2 3 6 3", "4 4 3 10 10 8", "9999 9999 9999 9999 9999 9999", "0 0 0 0 0 0", "10 2 2 3 6 2"};
         for (String line : wrong) {
-            Check.is("17: " + line, 0, checked(x, 1, line));
+            Check.is("17: " + line, 0, Rinks.checked(x, 1, line));
         }
         x.publish(1);
-        Check.is("17: published", 1, checked(x, 1, proofs[2]));
+        Check.is("17: published", 1, Rinks.checked(x, 1, proofs[2]));
         x.event(4, 3);
-        give(x, 1, FOUR);
+        Rinks.give(x, 1, FOUR);
         x.withdraw(0, 1);
-        Check.is("17: it does not start", 0, checked(x, 1, proofs[0]));
-        Check.is("17: as it was", 0, checked(x, 1, proofs[1]));
-        Check.is("17: as it is", 1, checked(x, 1, "1 1 2 2 5 2"));
-        typeAll(x, "1 1 2 2 5 2");
+        Check.is("17: it does not start", 0, Rinks.checked(x, 1, proofs[0]));
+        Check.is("17: as it was", 0, Rinks.checked(x, 1, proofs[1]));
+        Check.is("17: as it is", 1, Rinks.checked(x, 1, "1 1 2 2 5 2"));
+        Rinks.typeAll(x, "1 1 2 2 5 2");
         for (int none : NO_INDEX) {
             Check.outOfBounds("17: segment " + none, () -> x.check(none));
         }
         Check.outOfBounds("17: segment 3", () -> x.check(3));
         Check.is("17: the text stays", 1, x.check(1));
         x.proof(1, 3);
-        typeAll(x, pageOf(x));
+        Rinks.typeAll(x, Rinks.pageOf(x));
         Check.is("17: what is on the page", 1, x.check(1));
         Check.is("17: the page stays", 11, x.length());
     }
 
     private static void checkFaults() {
-        OrdinalRink most = rink(10, 9);
+        OrdinalRink most = Rinks.rink(10, 9);
         int[] row = {1, 1, 1, 1, 1, 1, 1, 1, 1, 1};
-        give(most, 2, row, row, row, row, row, row, row, row, row);
-        Check.is("17: skater 9 of ten", 1, checked(most, 2, "9 1 9 9 9 11"));
-        Check.is("17: there is no skater 10", 0, checked(most, 2, "10 1 9 9 9 11"));
+        Rinks.give(most, 2, row, row, row, row, row, row, row, row, row);
+        Check.is("17: skater 9 of ten", 1, Rinks.checked(most, 2, "9 1 9 9 9 11"));
+        Check.is("17: there is no skater 10", 0, Rinks.checked(most, 2, "10 1 9 9 9 11"));
         OrdinalRink x = new OrdinalRink();
         Object[][] lines = {
             {"", 0}, {" ", 0}, {" 1 2 3 4 5 6", 0}, {"x", 0}, {"-1 2 3 4 5 6", 0}, {"+", 0},
@@ -792,22 +752,22 @@ public final class PromisesTest {
             {"9999 9999 9999 9999 9999 99999", 29}, {"10000 1 1 1 1 1", 4}, {"9999", 4}, {"12345 x", 4},
             {"1 2 3 4 5 10000", 14}, {"0 0 0 0 0 /", 10}, {"0 0 0 0 0 :", 10}, {"0 0 0 0 0 0~", 11}};
         for (Object[] line : lines) {
-            Check.is("17: " + line[0], -1 - (int) line[1], checked(x, 2, (String) line[0]));
+            Check.is("17: " + line[0], -1 - (int) line[1], Rinks.checked(x, 2, (String) line[0]));
             Check.is("17: empty after " + line[0], -1, x.check(2));
         }
-        Check.is("17: zeros that are needed", 0, checked(x, 2, "10 100 1000 0 2000 3030"));
-        win(x, 2, 0);
-        Check.is("17: faults in a complete segment", -1 - 11, checked(x, 2, "0 1 3 3 3 2 "));
-        Check.is("17: and without", 1, checked(x, 2, "0 1 3 3 3 2"));
+        Check.is("17: zeros that are needed", 0, Rinks.checked(x, 2, "10 100 1000 0 2000 3030"));
+        Rinks.win(x, 2, 0);
+        Check.is("17: faults in a complete segment", -1 - 11, Rinks.checked(x, 2, "0 1 3 3 3 2 "));
+        Check.is("17: and without", 1, Rinks.checked(x, 2, "0 1 3 3 3 2"));
     }
 
     private static void lengthAndCharAt() {
         OrdinalRink x = new OrdinalRink();
         Check.is("18: empty", 0, x.length());
-        typeAll(x, "123");
+        Rinks.typeAll(x, "123");
         Check.is("18: the text is another thing", 0, x.length());
         Check.is("19: none", ' ', x.charAt(0));
-        win(x, 0, 1);
+        Rinks.win(x, 0, 1);
         x.proof(0, 1);
         Check.is("18: the page", 11, x.length());
         String due = "1 1 3 3 3 2";
