@@ -334,7 +334,7 @@ public final class PromiseEdgesTest {
     }
 
     private static void strikeThreeLeft() {
-        Check.sentence("IllegalState: or fewer than 3 would be left");
+        Check.sentence("or fewer than 3 would be left");
         for (int judges = 3; judges <= 9; judges++) {
             OrdinalRink x = Rinks.rink(2, judges);
             for (int s = 0; s < 3; s++) {
@@ -530,7 +530,7 @@ public final class PromiseEdgesTest {
     }
 
     private static void neededLeast() {
-        Check.sentence("The least sum of two numbers 0 .. 60 with which the skater's place would be at most 2 * place");
+        Check.sentence("The least sum of two numbers 0 .. 60 with which");
         int[][] cases = {{FREE, 0, 0, 1}, {SHORT, 0, 0, 1}, {FREE, 1, 0, 1}, {FREE, 0, 1, 2}, {SHORT, 1, 0, 2},
             {SHORT, 0, 1, 1}, {FREE, 0, 60, 61}, {FREE, 1, 59, 60}, {FREE, 1, 60, 62}, {FREE, 2, 59, 61},
             {FREE, 60, 59, 119}, {FREE, 59, 60, 120}, {SHORT, 60, 59, 120}, {SHORT, 59, 60, 119},
@@ -660,7 +660,7 @@ public final class PromiseEdgesTest {
     }
 
     private static void publishNotComplete() {
-        Check.sentence("(publish) IllegalState: or is not COMPLETE");
+        Check.sentence("(publish) or is not COMPLETE");
         OrdinalRink x = Rinks.rink(2, 3);
         Rinks.give(x, 1, Rinks.row(1, 2), Rinks.row(1, 2), Rinks.row(1));
         Check.badState("a mark is missing", () -> x.publish(1));

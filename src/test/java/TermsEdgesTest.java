@@ -268,7 +268,7 @@ public final class TermsEdgesTest {
     }
 
     private static void betterBySecond() {
-        Check.sentence("or the same and its SECOND is greater");
+        Check.sentence("or the same and its SECOND (SHORT: its FIRST) is greater");
         OrdinalRink x = new OrdinalRink();
         int[][] marks = {{30, 30}, {29, 31}, {31, 29}, {0, 60}, {60, 0}};
         int[] due = {1, 1, 2, 1, 2};
