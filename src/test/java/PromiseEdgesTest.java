@@ -541,6 +541,10 @@ public final class PromiseEdgesTest {
             Check.is(what, due[3], x.needed(1, 0, 1));
             Check.is(what + " or behind", 0, x.needed(1, 0, 2));
         }
+        for (int number = 0; number < 60; number++) {
+            Check.is("before 0 " + number, number + 1, undecided(FREE, 0, number).needed(1, 0, 1));
+            Check.is("before " + number + " 60", number + 61, undecided(FREE, number, 60).needed(1, 0, 1));
+        }
         OrdinalRink x = Rinks.rink(3, 3);
         Rinks.give(x, 1, Rinks.row(1, 2, 3), Rinks.row(2, 1, 3), Rinks.row(2, 1, 3));
         Check.is("a place of 3 is not at most 2", 79, x.needed(1, 0, 1));
