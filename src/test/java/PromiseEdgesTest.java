@@ -9,6 +9,7 @@ public final class PromiseEdgesTest {
         newObjectEmpty();
         eventForgets();
         eventOpens();
+        eventLeavesTheRest();
         eventSizes();
         segmentKinds();
         segmentFactors();
@@ -37,6 +38,8 @@ public final class PromiseEdgesTest {
         neededInPlace();
         neededNone();
         neededNotComplete();
+        neededDeductions();
+        neededPublished();
         neededPlaces();
         publishStarters();
         publishTwice();
@@ -146,6 +149,17 @@ public final class PromiseEdgesTest {
             Check.is("factor of " + s, s == 0 ? 10 : 40, x.total(0) - before);
             before = x.total(0);
         }
+    }
+
+    private static void eventLeavesTheRest() {
+        Check.sentence("A new event: no marks, deductions, strikes, withdrawals; all segments OPEN as at first");
+        OrdinalRink x = won();
+        x.proof(2, 1);
+        Rinks.typeAll(x, "1 2 3 3 6");
+        x.event(3, 5);
+        Check.is("the page is not among these", "1 2 3 6 6 4", Rinks.pageOf(x));
+        Rinks.typeAll(x, " x");
+        Check.is("the text is not among these", -1 - 10, x.check(0));
     }
 
     private static void eventSizes() {
@@ -616,6 +630,34 @@ public final class PromiseEdgesTest {
         OrdinalRink other = Rinks.rink(2, 3);
         Rinks.give(other, 1, Rinks.row(1, 2), Rinks.row(1), Rinks.row(1, 2));
         Check.is("another judge's is missing", NONE, other.needed(1, 1, 10));
+    }
+
+    private static void neededDeductions() {
+        Check.sentence("a skater's DEDUCTIONS (two, at first 0) are taken from these, down to 0 at most");
+        OrdinalRink x = undecided(FREE, 20, 20);
+        Check.is("nothing is taken: 0 40", 40, x.needed(1, 0, 1));
+        x.deduct(1, 0, 1, 5);
+        Check.is("of 0 45 is left 0 40, of 41 0 is 41 0", 41, x.needed(1, 0, 1));
+        x.deduct(1, 0, 0, 5);
+        Check.is("of 0 45 is left 0 40", 45, x.needed(1, 0, 1));
+        x.deduct(1, 0, 1, 60);
+        Check.is("of 46 0 is left 41 0", 46, x.needed(1, 0, 1));
+        x.deduct(1, 0, 0, 60);
+        Check.is("of 60 60 is left 0 0", NONE, x.needed(1, 0, 1));
+        Check.is("0 0 is enough to be second", 0, x.needed(1, 0, 2));
+    }
+
+    private static void neededPublished() {
+        Check.sentence("NONE if there is none, the skater does not start, or the segment would not be COMPLETE"
+                + " even so");
+        OrdinalRink x = undecided(FREE, 20, 20);
+        x.mark(1, 2, 0, 0, 0);
+        Check.is("open", 40, x.needed(1, 0, 1));
+        x.publish(1);
+        Check.is("a PUBLISHED one is not among these", 40, x.needed(1, 0, 1));
+        Check.is("its place stays", 4, x.placing(1, 0, 4));
+        Check.is("its total stays", 40, x.total(0));
+        Check.is("the other's total stays", 20, x.total(1));
     }
 
     private static void neededPlaces() {
